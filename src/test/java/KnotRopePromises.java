@@ -96,6 +96,12 @@ public final class KnotRopePromises {
     private static void gorge() {
         promise = "4";
         KnotRope x = new KnotRope();
+        // the example of README.md
+        x.feed(0x676f7267, 0x6520706c, 0x61636573, 0x20322077, 0x65617220);
+        x.feed(0x30206f64, 0x64732030, 0x3b000000, 0, 0);
+        x.end(29);
+        due("the example", x.gorge(), 1);
+        due("its places", x.count(0), 2);
         due("gorge() of nothing", x.gorge(), 0);
         due("gorge() of blanks", tell(x, "  \n "), 0);
         due("gorge()", tell(x, GORGE), 14);
@@ -118,7 +124,7 @@ public final class KnotRopePromises {
         due("rope(0, 0)", x.rope(0, 0), -1000);
         due("none", tell(x, ""), 0);
         due("all()", x.all(), -2);
-        due("count(0)", x.count(0), 0);
+        for (int what = 0; what <= 10; what++) due("count(" + what + ") of none", x.count(what), 0);
         due("tokens without blanks", tell(x, "gorge places2wear3odds4;knot inches9weak50;"), 2);
         due("count(1)", x.count(1), 3);
         due("zeros ahead", tell(x, "gorge places 0000000000000000000000006 wear 000 odds 0100 ;"), 1);
@@ -151,6 +157,20 @@ public final class KnotRopePromises {
         due("fault(0)", x.fault(0), 0);
         due("fault(1)", x.fault(1), -1);
 
+        // what was cut off the tape is no part of its last token
+        feed(x, "gorge places 22");
+        x.end(14);
+        due("a number cut", x.gorge(), -4);
+        due("fault(1)", x.fault(1), 14);
+        feed(x, "gorge places 2 wear");
+        x.end(17);
+        due("a word cut", x.gorge(), -4);
+        due("fault(1)", x.fault(1), 15);
+        faulty(times("a", 1400), 1, 0);
+        faulty(times(" ", 1399) + "1", 1, 1399);
+        faulty("gorge places" + times(" ", 1387) + "2", 1, 1400);
+        due("a full tape", tell(x, HEAD + times(" ", 1371)), 1);
+
         String one = HEAD + KNOT;
         faulty("gorge places 2", 1, 14);
         faulty("gorge places 2  \n", 1, 17);
@@ -170,6 +190,12 @@ public final class KnotRopePromises {
         faulty(HEAD + "7", 1, 29);
         faulty(HEAD + "Knot", 1, 29);
         faulty(HEAD + "knots", 1, 29);
+        faulty(HEAD + "knotz", 1, 29);
+        faulty(HEAD + "aknot", 1, 29);
+        faulty(HEAD + "knot{", 1, 33);
+        faulty(HEAD + "knot`", 1, 33);
+        faulty(HEAD + "knot inches 9:", 1, 42);
+        faulty(HEAD + "knot inches /9", 1, 41);
         faulty(HEAD + "\tknot", 1, 29);
         faulty(HEAD + (char) 233, 1, 29);
         faulty(HEAD + (char) 0, 1, 29);
@@ -905,6 +931,17 @@ public final class KnotRopePromises {
         for (int i = 0; i < 4; i++) due("mended by pairs " + i, pairs.mended(1, i), 0);
         due("mended without row", none.mended(1, 0), -6);
         due("mended without gorge", new KnotRope().mended(0, 0), -2);
+        x.row(3, 0, 24);
+        x.write(3, 0, 1);
+        x.write(3, 1, 1);
+        x.write(3, 23, 1);
+        due("mend of 24", x.mend(3), 1);
+        due("mended(3, 0)", x.mended(3, 0), 0);
+        due("mended(3, 1)", x.mended(3, 1), 1);
+        due("mended(3, 23)", x.mended(3, 23), 1);
+        due("mended(3, 24)", x.mended(3, 24), -1);
+        due("like of 24", x.like(3), 2);
+        due("text of 24", x.text(3), 0);
         // the least row of knots is not the one of the least words
         KnotRope rows = told(HEAD + times(KNOT, 3) + "word 1 means 0;word 0 1 means 0;");
         slot(rows, 0, 2, 1);
