@@ -696,6 +696,7 @@ public final class KnotRopeEdges {
         alike("all of it", look(x), look(told(ONE)));
         due("and the full one", tell(x, FULL), 29);
         alike("all of it", look(x), as);
+        inPlaceOfOthers();
         due("of no bytes", x.gorge(), 0);
         noGorge(x);
         tell(x, FULL);
@@ -758,6 +759,105 @@ public final class KnotRopeEdges {
         beside("fault of a new object", 2, -1, fresh::fault);
         due("ahead of any", fresh.fault(1), -1);
         due("what 0, ahead of any", fresh.fault(0), 0);
+    }
+
+    /** All that can be asked without changing anything, by numbers that there are and some beside them. */
+    private static List<Act> questions() {
+        List<Act> q = new ArrayList<>();
+        for (int r = -1; r < 7; r++) {
+            int a = r;
+            for (int back = 0; back < 2; back++) {
+                int b = back;
+                q.add(x -> x.reads(a, b));
+                q.add(x -> x.sum(a, b, 0));
+                q.add(x -> x.sum(a, b, 1));
+                for (int i = 0; i < 4; i++) {
+                    int at = i;
+                    q.add(x -> x.says(a, b, at));
+                    q.add(x -> x.has(a, b, 6 * at));
+                    q.add(x -> x.lasts(a, 1 + 90 * at));
+                }
+                q.add(x -> x.forge(a, b));
+            }
+            q.add(x -> x.slips(a));
+            q.add(x -> x.spots(a));
+            q.add(x -> x.feel(a));
+            q.add(x -> x.leaves(a));
+            q.add(x -> x.forged(a));
+            q.add(x -> x.ferry(a));
+            q.add(x -> x.groups(a));
+            q.add(x -> x.group(a));
+            q.add(x -> x.bears(a));
+            q.add(x -> x.order(a));
+            for (int o = 0; o < 6; o++) {
+                int b = o;
+                q.add(x -> x.overlap(a, b));
+                q.add(x -> x.part(a, b));
+                q.add(x -> x.errors(a, b));
+                q.add(x -> x.common(a, b));
+                q.add(x -> x.drawn(77 * b, a, b % 3));
+                q.add(x -> x.winters(b, a, 20));
+                for (int p = 0; p < 4; p++) {
+                    int who = p;
+                    q.add(x -> x.way(who, a, b));
+                    q.add(x -> x.by(who, a, b, who));
+                    q.add(x -> x.learns(who, a, b, 5 * who));
+                    q.add(x -> x.keys(who, a, b));
+                }
+            }
+        }
+        q.add(KnotRope::all);
+        for (int i = 0; i < 64; i++) {
+            int set = i;
+            q.add(x -> x.which(set));
+            q.add(x -> x.feels(set));
+            q.add(x -> x.shortest(set * 8, 50));
+            q.add(x -> x.writes(set, 50, set % 5));
+        }
+        for (int s = 0; s < 4; s++) {
+            int slot = s;
+            q.add(x -> x.text(slot));
+            q.add(x -> x.like(slot));
+            q.add(x -> x.found(slot));
+            q.add(x -> x.mend(slot));
+            for (int i = 0; i < 4; i++) {
+                int at = i;
+                q.add(x -> x.mended(slot, at));
+            }
+        }
+        return q;
+    }
+
+    /** A small gorge answers as it does in a new object, whatever was told, done and asked ahead, in whatever order. */
+    private static void inPlaceOfOthers() {
+        String r = "rope 1 to 0 bears 90 of ";
+        // what the full gorge has behind the last word, rope and person of these fits their ropes
+        String[] small = {HEAD, ONE, TWO + "word 0 means 3;" + r + "1 0;" + r + "1;" + r + "0 1;person weighs 80 pace 2 at 1;",
+            TWO + "word 1 means 3;" + r + "0;" + r + "1 1;", THREE + "word 0 1 means 5;word 2 means 1;" + r + "2;" + r + "0 1 2;" + r + "0 0 0 0;"};
+        for (String text : small) {
+            List<Act> questions = questions();
+            KnotRope used = new KnotRope();
+            for (String ahead : new String[] {FULL, ROW, FULL, FULL}) {
+                tell(used, ahead);
+                for (Act act : forty()) act.on(used);
+                for (Act q : questions) q.on(used);
+            }
+            tell(used, text);
+            KnotRope fresh = told(text);
+            for (KnotRope x : new KnotRope[] {used, fresh}) {
+                slot(x, 0);
+                slot(x, 1, 0, 1, 1);
+                slot(x, 2, 5, 4, 3, 2);
+            }
+            int[] due = new int[questions.size()];
+            for (int i = 0; i < due.length; i++) due[i] = questions.get(i).on(fresh);
+            List<Integer> order = new ArrayList<>();
+            for (int i = 0; i < due.length; i++) order.add(i);
+            for (int turn = 0; turn < 3; turn++) {
+                for (int i : order) due("question " + i + " of " + text, questions.get(i).on(used), due[i]);
+                java.util.Collections.shuffle(order, new Random(turn));
+            }
+        }
     }
 
     private static void parts() {
@@ -2033,6 +2133,9 @@ public final class KnotRopeEdges {
         due("the least row, second", pairs.mended(0, 1), 0);
         due("the least row, third", pairs.mended(0, 2), 1);
         due("the least row, last", pairs.mended(0, 3), 0);
+        KnotRope all = told(THREE + "word 2 means 0;word 1 means 0;");
+        all.row(0, 0, 24);
+        for (int i = 0; i < 24; i++) due("the least of 24: " + i, all.mended(0, i), 1);
         KnotRope rows = told(THREE + "word 2 means 0;word 1 means 0;word 0 2 means 0;");
         slot(rows, 0, 0, 0);
         // 0 2 is one away, 1 1 two

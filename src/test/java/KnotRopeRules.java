@@ -1,3 +1,11 @@
+import com.sun.source.tree.CompilationUnitTree;
+import com.sun.source.tree.MethodInvocationTree;
+import com.sun.source.tree.MethodTree;
+import com.sun.source.tree.NewArrayTree;
+import com.sun.source.tree.NewClassTree;
+import com.sun.source.util.JavacTask;
+import com.sun.source.util.TreePathScanner;
+import com.sun.source.util.Trees;
 import java.lang.reflect.Constructor;
 import java.lang.reflect.Field;
 import java.lang.reflect.Method;
@@ -6,9 +14,15 @@ import java.nio.charset.StandardCharsets;
 import java.nio.file.Files;
 import java.nio.file.Path;
 import java.util.Arrays;
+import java.util.Map;
+import java.util.TreeMap;
 import java.util.TreeSet;
 import java.util.regex.Matcher;
 import java.util.regex.Pattern;
+import javax.lang.model.element.Element;
+import javax.tools.JavaCompiler;
+import javax.tools.StandardJavaFileManager;
+import javax.tools.ToolProvider;
 
 /** The class's face, as the document has it, and those rules of LANGUAGE.md that can be seen in its text. */
 public final class KnotRopeRules {
@@ -100,8 +114,73 @@ public final class KnotRopeRules {
         }
     }
 
+    /** Who calls whom, by the compiler's own names; and where objects and arrays are made. */
+    private static final class Calls extends TreePathScanner<Void, Void> {
+        final Map<String, TreeSet<String>> callees = new TreeMap<>();
+        private final Trees trees;
+        private String caller = "";
+        private boolean calledLater;
+
+        Calls(Trees trees) {
+            this.trees = trees;
+        }
+
+        private static String name(Element e) {
+            return e.getEnclosingElement() + "." + e;
+        }
+
+        @Override public Void visitMethod(MethodTree m, Void v) {
+            String was = caller;
+            boolean waslater = calledLater;
+            caller = name(trees.getElement(getCurrentPath()));
+            calledLater = m.getReturnType() != null;
+            callees.putIfAbsent(caller, new TreeSet<>());
+            super.visitMethod(m, v);
+            caller = was;
+            calledLater = waslater;
+            return null;
+        }
+
+        @Override public Void visitMethodInvocation(MethodInvocationTree m, Void v) {
+            if (!caller.isEmpty()) callees.get(caller).add(name(trees.getElement(getCurrentPath())));
+            return super.visitMethodInvocation(m, v);
+        }
+
+        @Override public Void visitNewClass(NewClassTree n, Void v) {
+            if (!caller.isEmpty()) callees.get(caller).add(name(trees.getElement(getCurrentPath())));
+            hold(!calledLater, "made in a constructor alone: " + n + " in " + caller);
+            return super.visitNewClass(n, v);
+        }
+
+        @Override public Void visitNewArray(NewArrayTree n, Void v) {
+            hold(!calledLater, "made in a constructor alone: " + n + " in " + caller);
+            return super.visitNewArray(n, v);
+        }
+
+        /** How deep the calls go from a method on, itself with them; the library's are one each. */
+        int depth(String from, int open) {
+            if (open > 300) return 300;
+            int deepest = 0;
+            for (String callee : callees.getOrDefault(from, new TreeSet<>())) deepest = Math.max(deepest, depth(callee, open + 1));
+            return deepest + 1;
+        }
+    }
+
+    private static void calls() throws Exception {
+        JavaCompiler compiler = ToolProvider.getSystemJavaCompiler();
+        StandardJavaFileManager files = compiler.getStandardFileManager(null, null, null);
+        JavacTask task = (JavacTask) compiler.getTask(null, files, null, null, null, files.getJavaFileObjects("src/main/java/KnotRope.java"));
+        Iterable<? extends CompilationUnitTree> units = task.parse();
+        task.analyze();
+        Calls calls = new Calls(Trees.instance(task));
+        for (CompilationUnitTree unit : units) calls.scan(unit, null);
+        hold(calls.callees.size() > 100, "the methods are found: " + calls.callees.size());
+        for (String method : calls.callees.keySet()) hold(calls.depth(method, 1) <= 8, "eight deep: " + method + " goes " + calls.depth(method, 1));
+    }
+
     public static void main(String[] args) throws Exception {
         face();
+        calls();
         text(Files.readString(Path.of("src/main/java/KnotRope.java"), StandardCharsets.ISO_8859_1));
         System.out.println(wrong == 0 ? "all rules hold" : wrong + " rules do not hold");
         if (wrong != 0) System.exit(1);
